@@ -69,6 +69,7 @@ public final class PlateRings {
     /** A LAW's code from here on names a field; below stand its numbers, and below 0 its signs. */
     private static final int FIRST_FIELD = 1000;
     private static final int EVERY_LOSS = -1;
+    private static final int WITHOUT_SIGN = 0x7fffffff;
     private static final int[] LONG_STEPS = {10, 5, 2};
 
     private final Text text;
@@ -573,7 +574,7 @@ public final class PlateRings {
         int found = 0;
         for (int i = 0; i < n; i++) {
             seed = seed * 1103515245 + 12345;
-            int lean = 1 + (seed & Integer.MAX_VALUE) / 65536 % MOST_LEAN;
+            int lean = 1 + (seed & WITHOUT_SIGN) / 65536 % MOST_LEAN;
             int ticks = ticksOf(one, lean, floor);
             if (what == 0 ? ticks >= m : mind.end == LEAPS) {
                 found++;
@@ -1137,8 +1138,12 @@ public final class PlateRings {
 
         /** PLATES and LOSSES never change, so both may hold the same ones. */
         void copyFrom(Bench other) {
-            System.arraycopy(other.plates, 0, plates, 0, MOST_PLATES);
-            System.arraycopy(other.losses, 0, losses, 0, MOST_LOSSES);
+            for (int i = 0; i < MOST_PLATES; i++) {
+                plates[i] = other.plates[i];
+            }
+            for (int i = 0; i < MOST_LOSSES; i++) {
+                losses[i] = other.losses[i];
+            }
             System.arraycopy(other.hard, 0, hard, 0, MOST_FLOORS);
             System.arraycopy(other.tilt, 0, tilt, 0, MOST_FLOORS);
             System.arraycopy(other.legFloors, 0, legFloors, 0, MOST_LEGS);
