@@ -37,6 +37,7 @@ public final class ImageTest {
     x.heard(-1);
     x.slip(12);
     x.leg(2, 20);
+    x.leg(0, 5);
     Check.feed(x, "w55");
     long rolled = x.rolled();
     Check.due("two plates", x.image(), 2);
@@ -47,12 +48,17 @@ public final class ImageTest {
     x.floor(1, 0, 0);
     x.floor(1, 1, 0);
     x.air(true);
-    x.spin(0, 80, 2);
-    x.tick(5);
+    x.floor(3, 1, 7);
+    x.spin(0, 800, 2);
+    x.tick(40);
     x.hush();
+    x.heard(5);
+    x.heard(6);
+    x.heard(7);
     x.slip(0);
-    x.leg(3, 20);
     x.legs(0, 5);
+    x.leg(3, 3);
+    x.leg(1, 3);
     Check.feed(x, "xyz");
     x.tick(0);
     int refused = Check.refused(x);
@@ -71,18 +77,26 @@ public final class ImageTest {
       Check.due("state(" + what + ")", x.state(what), want[what]);
     }
     Check.due("rolled", x.rolled(), rolled);
+    Check.due("tenth", x.tenth(0, 0), 500);
     Check.due("tenth", x.tenth(2, 0), 360);
     Check.due("tenth", x.tenth(1, 1), 9000 / 440 * 10);
+    Check.due("no more tenths", x.tenth(3, 1), -9);
     Check.due("tones", x.count(2), 2);
     Check.due("heard", x.count(3), 1);
     Check.due("first off by what was heard", x.firstOff(3), 0);
-    Check.due("legs", x.count(4), 1);
+    Check.due("how far: 77 less 170", x.ear(2), 93);
+    Check.due("legs", x.count(4), 2);
     Check.due("slip", x.slip(5), 12);
     Check.due("hard", x.floor(1, 0, 9), 3);
     Check.due("tilt", x.floor(1, 1, 9), 4);
     Check.due("it goes on from where it was", x.tick(5), 0);
     Check.due("lean", x.state(1), 290);
     Check.due("its beginning is its own", x.ahead(0, 3, 0), 72);
+    x.plate();
+    Check.rolling(x, "k");
+    x.floor(3, 1, 9);
+    x.floor(0, 1, 3);
+    Check.due("legs are their own: 20 by seven, 6 by ten", x.legs(0, 200), 26);
   }
 
   private static void twice() {

@@ -29,6 +29,7 @@ public final class SpinTest {
     Check.due("plain at 890", x.toneAt(0, 890), 100);
     Check.due("plain at 891", x.toneAt(0, 891), 90);
     Check.due("plain at 8990", x.toneAt(0, 8990), 10);
+    Check.due("plain at 8991", x.toneAt(0, 8991), 0);
     Check.due("plain at 9000", x.toneAt(0, 9000), 0);
     Check.due("dished at 500", x.toneAt(1, 500), 17 * 104 / 17);
     Check.due("wide at 100", x.toneAt(2, 100), 81 * 109 / 19);
@@ -164,6 +165,11 @@ public final class SpinTest {
     y.spin(0, 14, 0);
     Check.due("leaps with 1 left", y.tick(1), 2);
     Check.due("1 left", y.state(1), 1);
+    PlateRings one = Check.plain();
+    Check.loss(one, "1", 3, 0, 0);
+    one.spin(0, 80, 0);
+    Check.due("leaps by one", one.tick(9), 2);
+    Check.due("at once", one.state(1), 79);
     PlateRings none = Check.plain();
     none.spin(0, 100, 0);
     Check.due("stands without losses", none.tick(9), 3);
@@ -318,6 +324,8 @@ public final class SpinTest {
     PlateRings none = Check.plain("0");
     none.spin(0, 70, 0);
     Check.due("none takes", none.rules(0), -9);
+    Check.rolling(none, "1");
+    Check.due("one rules by one", none.rules(0), 1);
     PlateRings y = Check.plain("2", "3");
     y.spin(0, 0, 0);
     Check.due("what it would take at lean 0", y.rules(0), 1);

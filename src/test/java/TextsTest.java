@@ -61,13 +61,14 @@ public final class TextsTest {
     Check.due("least", Check.plate(x, "w1d1"), 1);
     Check.due("h alone", Check.plate(x, "w10d10h5"), 2);
     Check.due("e and b", Check.plate(x, "w100d20e0b3"), 3);
-    int[][] want = {{999, 99, 9, 8, 7}, {1, 1, 0, 0, 0}, {10, 10, 0, 5, 0}, {100, 20, 0, 0, 3}};
+    Check.due("told as 0", Check.plate(x, "w90d9e0h0b0"), 4);
+    int[][] want = {{999, 99, 9, 8, 7}, {1, 1, 0, 0, 0}, {10, 10, 0, 5, 0}, {100, 20, 0, 0, 3}, {90, 9, 0, 0, 0}};
     for (int i = 0; i < want.length; i++) {
       for (int what = 0; what < 5; what++) {
         Check.due("plateOf(" + i + ", " + what + ")", x.plateOf(i, what), want[i][what]);
       }
     }
-    Check.due("plateOf(4, 0)", x.plateOf(4, 0), -1);
+    Check.due("plateOf(5, 0)", x.plateOf(5, 0), -1);
     Check.due("plateOf(-1, 9)", x.plateOf(-1, 9), -1);
     Check.due("plateOf(0, 5)", x.plateOf(0, 5), -2);
     Check.due("plateOf(0, -1)", x.plateOf(0, -1), -2);

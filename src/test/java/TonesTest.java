@@ -207,6 +207,7 @@ public final class TonesTest {
     hear(x, toneAtLean(503), toneAtLean(450), -1, toneAtLean(350));
     Check.due("no sooner than what was heard", x.stagger(1), 30);
     Check.due("losses are as they were", x.count(1), 2);
+    Check.due("and take as they did", x.lasts(0, 100, 0, 0), 20);
   }
 
   private static void staggerEdges() {

@@ -113,6 +113,7 @@ public final class TriesTest {
     Check.due("the lightest", x.longest(19, 100, 0), 3);
     Check.due("none so light", x.longest(9, 100, 0), -9);
     Check.due("weight 0", x.longest(0, 9000, 3), -9);
+    Check.due("lean 0: all last one", x.longest(999, 0, 0), 0);
     Check.due("no floor", x.longest(-1, 9001, 4), -1);
     Check.due("no floor", x.longest(5, 5, -1), -1);
     Check.due("weight below", x.longest(-1, 9001, 0), -4);
@@ -278,6 +279,13 @@ public final class TriesTest {
       Check.due("last 4000 from " + z, x.draws(0, 0, 30, z, 4000, 0), long4000);
       Check.due("none last 9999", x.draws(0, 0, 30, z, 9999, 0), 0);
       Check.due("leap from " + z, x.draws(0, 0, 30, z, 9999, 1), leaping);
+    }
+    PlateRings y = Check.plain("1");
+    for (int z = -1000; z < 1000; z += 37) {
+      int next = z * 1103515245 + 12345;
+      int lean = 1 + (next & 0x7fffffff) / 65536 % 9000;
+      Check.due("lasts its lean", y.draws(0, 0, 1, z, lean, 0), 1);
+      Check.due("no longer", y.draws(0, 0, 1, z, lean + 1, 0), 0);
     }
     // From 0: z is 12345, by 65536 cut 0: lean 1.
     Check.due("the first of seed 0 lasts 1", x.draws(0, 0, 1, 0, 1, 0), 1);
