@@ -1,6 +1,6 @@
 import java.util.Arrays;
 
-/** A plate that rings as it lies down. The promises stand in DOC.md; REFUSALS are told there under "Terms". */
+/** A plate that rings as it lies down. The promises, and the words in capitals, stand in DOC.md. */
 public final class PlateRings {
     private static final int NOBODY = -1;
     private static final int OTHER = -2;
@@ -711,7 +711,7 @@ public final class PlateRings {
         int most = -1;
         for (int edge = 0; edge <= NINE; edge++) {
             mind.begin(one, lean, 0);
-            mind.fields[EDGE] = edge;
+            mind.takeEdge(edge);
             mind.runTo(MOST_TICKS);
             if (mind.tick > most) {
                 most = mind.tick;
@@ -1160,7 +1160,7 @@ public final class PlateRings {
     /** A spin in mind; THE PLATE's own TICKS are reckoned here too. */
     private static final class Mind {
         private final Bench bench;
-        final int[] fields = new int[FIELD_COUNT];
+        private final int[] fields = new int[FIELD_COUNT];
         final int[] taken = new int[MOST_LOSSES];
         int lean;
         int tone;
@@ -1200,6 +1200,11 @@ public final class PlateRings {
                 fields[HARD] = bench.hard[floor];
                 fields[TILT] = bench.tilt[floor];
             }
+        }
+
+        /** Another EDGE than the PLATE's own. */
+        void takeEdge(int edge) {
+            fields[EDGE] = edge;
         }
 
         /** One EARLY LOSS more, by another's LAW. */
