@@ -1,7 +1,12 @@
+import java.nio.file.Files;
+import java.nio.file.Path;
+
 /** What the tests share: a row of answers that are due, and texts fed as bytes. */
 final class Check {
   private static int right = 0;
   private static int wrong = 0;
+  private static String document = "";
+  private static String words = "";
 
   private Check() { }
 
@@ -10,7 +15,34 @@ final class Check {
       right++;
     } else {
       wrong++;
-      System.out.println(call + " answered " + got + ", due is " + want);
+      String by = words.isEmpty() ? "" : " by '" + words + "'";
+      System.out.println(call + " answered " + got + ", due is " + want + by);
+    }
+  }
+
+  /** The document's own words that the next answers are due by: a test of words that do not stand there fails. */
+  static void by(String told) {
+    if (document.isEmpty()) {
+      try {
+        document = Files.readString(Path.of("../shared/DOC.md")).replaceAll("\\s+", " ");
+      } catch (java.io.IOException e) {
+        document = "not found";
+      }
+    }
+    words = told;
+    due("these words stand in the document", document.contains(told) ? 1 : 0, 1);
+  }
+
+  /** The tone of a plate "w1d1" at a lean. */
+  static int tone(int lean) {
+    return 9000 / (lean + 10) * 10;
+  }
+
+  /** The ROW is these tones, and no others. */
+  static void hear(PlateRings x, int... tones) {
+    x.hush();
+    for (int tone : tones) {
+      x.heard(tone);
     }
   }
 
